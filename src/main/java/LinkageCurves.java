@@ -27,8 +27,6 @@ public final class LinkageCurves {
 
     private final Reader reader = new Reader();
     private Linkage linkage = new Linkage();
-    /** The next text is read into this one, so that a FAULT leaves the LINKAGE as it is. */
-    private Linkage draft = new Linkage();
     private final Counts counts = new Counts();
     private final Matrix matrix = new Matrix();
     private final Turning turning = new Turning();
@@ -56,13 +54,11 @@ public final class LinkageCurves {
     }
 
     public int read() {
-        int fault = reader.readInto(draft);
+        int fault = reader.readTape();
         if (fault != 0) {
             return -10 - fault;
         }
-        Linkage old = linkage;
-        linkage = draft;
-        draft = old;
+        linkage = reader.exchange(linkage);
         counts.work(linkage);
         matrix.work(linkage);
         turning.work(linkage);
@@ -142,7 +138,7 @@ public final class LinkageCurves {
         if (linkage.driven == NONE) {
             return STATE;
         }
-        turning.arrange(step, turning.hanging, posed);
+        turning.arrange(linkage, step, turning.hanging, posed);
         isPosed = true;
         return posed.howMany(linkage.size(JOINTS));
     }
@@ -203,7 +199,7 @@ public final class LinkageCurves {
         if (linkage.driven == NONE) {
             return STATE;
         }
-        curve.draw(turning, joint);
+        curve.draw(linkage, turning, joint);
         return curve.howMany;
     }
 
@@ -226,10 +222,10 @@ public final class LinkageCurves {
         }
         switch (what) {
             case 0: return curve.beginnings();
-            case 1: return curve.firstLeast(0);
-            case 2: return curve.firstGreatest(0);
-            case 3: return curve.firstLeast(1);
-            default: return curve.firstGreatest(1);
+            case 1: return curve.firstFarthest(0, -1);
+            case 2: return curve.firstFarthest(0, 1);
+            case 3: return curve.firstFarthest(1, -1);
+            default: return curve.firstFarthest(1, 1);
         }
     }
 
@@ -280,7 +276,7 @@ public final class LinkageCurves {
         if (!isPart(part) || what < 0 || what > 2) {
             return BAD;
         }
-        asks.start(linkage, part);
+        asks.start(linkage.kinds[part], linkage.sizeOf(part));
         int answer;
         switch (what) {
             case 0: answer = asks.freedom(); break;
@@ -333,27 +329,13 @@ public final class LinkageCurves {
     }
 
     public long put(int row, int i, long v) {
-        if (!isRow(row)) {
-            return BAD;
-        }
-        int finding = findingAt(rows[row], i);
-        if (finding != 0) {
-            return found(finding);
-        }
-        status = 0;
-        return rows[row].store(i, v);
+        int refusal = refusalAt(row, i);
+        return refusal != 0 ? refusal : rows[row].store(i, v);
     }
 
     public long get(int row, int i) {
-        if (!isRow(row)) {
-            return BAD;
-        }
-        int finding = findingAt(rows[row], i);
-        if (finding != 0) {
-            return found(finding);
-        }
-        status = 0;
-        return rows[row].items[i];
+        int refusal = refusalAt(row, i);
+        return refusal != 0 ? refusal : rows[row].items[i];
     }
 
     public int move(int a, int i, int b, int j, int n) {
@@ -458,11 +440,15 @@ public final class LinkageCurves {
         return row >= 0 && row < ROWS;
     }
 
-    private static int findingAt(Row row, int i) {
-        if (!row.isThere) {
-            return NO_ROW;
+    /** What put() and get() refuse with; 0: there is such an ITEM. */
+    private int refusalAt(int row, int i) {
+        if (!isRow(row)) {
+            return BAD;
         }
-        return i < 0 || i >= row.size ? NO_PLACE : 0;
+        if (!rows[row].isThere) {
+            return found(NO_ROW);
+        }
+        return i < 0 || i >= rows[row].size ? found(NO_PLACE) : fine(0);
     }
 
     private int rowsThere() {
@@ -617,6 +603,15 @@ public final class LinkageCurves {
             return dx * dx + dy * dy;
         }
 
+        /** Of a BAR its length, DOWN, of a WHEEL its TEETH, else 0. */
+        int sizeOf(int part) {
+            switch (kinds[part]) {
+                case BAR: return (int) rootDown(squareApart(firsts[part], seconds[part]));
+                case WHEEL: return seconds[part];
+                default: return 0;
+            }
+        }
+
         boolean isOfKind(int part, int kind) {
             for (int k = kinds[part]; k != NONE; k = WIDER_KIND[k]) {
                 if (k == kind) {
@@ -642,7 +637,8 @@ public final class LinkageCurves {
         private final byte[] tape = new byte[MOST_BYTES];
         private int length;
         private final int[] wordCodes = new int[WORD_COUNT];
-        private Linkage linkage;
+        /** Not the LINKAGE in use, which a FAULT must leave as it is. */
+        private Linkage linkage = new Linkage();
         private int position;
         private int token;
         private int tokenStart;
@@ -677,8 +673,7 @@ public final class LinkageCurves {
         }
 
         /** The FAULT's number; 0: there is none. */
-        int readInto(Linkage draft) {
-            linkage = draft;
+        int readTape() {
             linkage.clear();
             position = 0;
             fault = 0;
@@ -692,6 +687,13 @@ public final class LinkageCurves {
             }
             length = 0;
             return fault;
+        }
+
+        /** Gives what was read away, and takes an old LINKAGE to read the next text into. */
+        Linkage exchange(Linkage old) {
+            Linkage fresh = linkage;
+            linkage = old;
+            return fresh;
         }
 
         // TOKENS
@@ -1001,22 +1003,19 @@ public final class LinkageCurves {
                     first = i;
                 } else if (second == NONE) {
                     second = i;
-                    offerTie(first, second);
+                    offer(first, second);
+                    ties = 1;
                 } else {
-                    offerTie(i, first);
-                    offerTie(i, second);
+                    offer(i, first);
+                    offer(i, second);
+                    ties += 2;
                 }
             }
         }
 
-        private void offerTie(int a, int b) {
-            ties++;
-            offer(a, b);
-        }
-
         /** Takes an ITEM up, if it is NEEDED. */
         private boolean offer(int a, int b) {
-            if (!isFree(a, b)) {
+            if (!wouldBeNeeded(a, b)) {
                 return false;
             }
             leads[a][0] = b;
@@ -1025,7 +1024,7 @@ public final class LinkageCurves {
         }
 
         /** Whether an ITEM between two JOINTS would be NEEDED; pebbles move, what they say stays. */
-        private boolean isFree(int a, int b) {
+        private boolean wouldBeNeeded(int a, int b) {
             for (int i = 0; i < 2 && freePebbles(a) < 2; i++) {
                 fetch(a, a);
             }
@@ -1079,7 +1078,7 @@ public final class LinkageCurves {
             for (int a = 0; a < joints; a++) {
                 togetherBits[a] |= 1 << a;
                 for (int b = 0; b < a; b++) {
-                    if (!isFree(a, b)) {
+                    if (!wouldBeNeeded(a, b)) {
                         togetherBits[a] |= 1 << b;
                         togetherBits[b] |= 1 << a;
                     }
@@ -1260,7 +1259,6 @@ public final class LinkageCurves {
         private static final int UNIT = 1024, QUARTER = 64;
         private static final long SQUARE_UNIT = 1L << 20, SCALE = 1L << 16, FARTHEST_FOOT = 1L << 28;
 
-        private Linkage linkage;
         private final int[] sequence = new int[MOST_JOINTS];
         private int hanging;
         private final boolean[] isThere = new boolean[MOST_JOINTS];
@@ -1272,8 +1270,7 @@ public final class LinkageCurves {
         private final long[] squareToA = new long[MOST_JOINTS];
         private final long[] squareToB = new long[MOST_JOINTS];
 
-        void work(Linkage newLinkage) {
-            linkage = newLinkage;
+        void work(Linkage linkage) {
             hanging = 0;
             int joints = linkage.size(JOINTS);
             for (int i = 0; i < joints; i++) {
@@ -1282,12 +1279,12 @@ public final class LinkageCurves {
                 onB[i] = NONE;
             }
             for (int i = 0; i < joints && linkage.driven != NONE; i++) {
-                int joint = nextToCome();
+                int joint = nextToCome(linkage);
                 if (joint == NONE) {
                     break;
                 }
                 isThere[joint] = true;
-                side[joint] = toldSide(joint);
+                side[joint] = toldSide(linkage, joint);
                 squareToA[joint] = SQUARE_UNIT * linkage.squareApart(joint, onA[joint]);
                 squareToB[joint] = SQUARE_UNIT * linkage.squareApart(joint, onB[joint]);
                 sequence[hanging] = joint;
@@ -1295,16 +1292,16 @@ public final class LinkageCurves {
             }
         }
 
-        private int nextToCome() {
+        private int nextToCome(Linkage linkage) {
             for (int i = 0; i < linkage.size(JOINTS); i++) {
-                if (!isThere[i] && canHang(i)) {
+                if (!isThere[i] && canHang(linkage, i)) {
                     return i;
                 }
             }
             return NONE;
         }
 
-        private boolean canHang(int joint) {
+        private boolean canHang(Linkage linkage, int joint) {
             int a = NONE;
             for (int bar = 0; bar < linkage.size(BARS); bar++) {
                 int other = linkage.acrossBar(bar, joint);
@@ -1321,7 +1318,7 @@ public final class LinkageCurves {
             return false;
         }
 
-        private int toldSide(int joint) {
+        private int toldSide(Linkage linkage, int joint) {
             int a = onA[joint];
             int b = onB[joint];
             int across = (linkage.x(b) - linkage.x(a)) * (linkage.y(joint) - linkage.y(a))
@@ -1340,20 +1337,20 @@ public final class LinkageCurves {
         }
 
         /** Places GROUND, the DRIVEN JOINT and the first ones of ORDER; there is a DRIVEN JOINT. */
-        void arrange(int step, int howManyHang, Places places) {
+        void arrange(Linkage linkage, int step, int howManyHang, Places places) {
             for (int i = 0; i < linkage.size(JOINTS); i++) {
                 places.reason[i] = LOOSE;
                 if (linkage.isGround(i)) {
                     places.set(i, UNIT * linkage.x(i), UNIT * linkage.y(i));
                 }
             }
-            placeDriven(step, places);
+            placeDriven(linkage, step, places);
             for (int i = 0; i < howManyHang; i++) {
                 hang(sequence[i], places);
             }
         }
 
-        private void placeDriven(int step, Places places) {
+        private void placeDriven(Linkage linkage, int step, Places places) {
             int m = step % QUARTER;
             int c = 65536 * (4096 - m * m) / (4096 + m * m);
             int d = 8388608 * m / (4096 + m * m);
@@ -1428,12 +1425,12 @@ public final class LinkageCurves {
         private final boolean[] isPlaced = new boolean[STEPS];
         private final Places places = new Places();
 
-        void draw(Turning turning, int joint) {
+        void draw(Linkage linkage, Turning turning, int joint) {
             int depth = turning.depthOf(joint);
             drawn = true;
             howMany = 0;
             for (int step = 0; step < STEPS; step++) {
-                turning.arrange(step, depth, places);
+                turning.arrange(linkage, step, depth, places);
                 isPlaced[step] = places.reason[joint] == 0;
                 x[step] = places.x[joint];
                 y[step] = places.y[joint];
@@ -1460,22 +1457,12 @@ public final class LinkageCurves {
             return beginnings;
         }
 
-        int firstLeast(int axis) {
+        /** The first STEP at which an axis is greatest (way 1) or least (way -1). */
+        int firstFarthest(int axis, int way) {
             long[] values = valuesOf(axis);
             int best = NONE;
             for (int step = 0; step < STEPS; step++) {
-                if (isPlaced[step] && (best == NONE || values[step] < values[best])) {
-                    best = step;
-                }
-            }
-            return best;
-        }
-
-        int firstGreatest(int axis) {
-            long[] values = valuesOf(axis);
-            int best = NONE;
-            for (int step = 0; step < STEPS; step++) {
-                if (isPlaced[step] && (best == NONE || values[step] > values[best])) {
+                if (isPlaced[step] && (best == NONE || way * values[step] > way * values[best])) {
                     best = step;
                 }
             }
@@ -1511,7 +1498,9 @@ public final class LinkageCurves {
 
         int firstLock(Linkage linkage) {
             int first = NONE;
-            Arrays.fill(isSettled, false);
+            for (int i = 0; i < MOST_WHEELS; i++) {
+                isSettled[i] = false;
+            }
             for (int wheel = 0; wheel < linkage.size(WHEELS); wheel++) {
                 if (isSettled[wheel]) {
                     continue;
@@ -1610,18 +1599,18 @@ public final class LinkageCurves {
         private final int[] bodies = new int[LONGEST_TRACE];
         private int begun;
         private boolean byNought;
-        private Linkage linkage;
-        private int part;
+        private int kind;
+        private int size;
 
-        void start(Linkage ofLinkage, int ofPart) {
-            linkage = ofLinkage;
-            part = ofPart;
+        void start(int ofKind, int ofSize) {
+            kind = ofKind;
+            size = ofSize;
             begun = 0;
             byNought = false;
         }
 
         int freedom() {
-            switch (linkage.kinds[part]) {
+            switch (kind) {
                 case PIN:
                     return pinFreedom();
                 case GROUND:
@@ -1640,13 +1629,13 @@ public final class LinkageCurves {
         }
 
         int mass() {
-            switch (linkage.kinds[part]) {
+            switch (kind) {
                 case BAR:
                     begin(21);
-                    return (int) rootDown(linkage.squareApart(linkage.firsts[part], linkage.seconds[part]));
+                    return size;
                 case WHEEL:
                     begin(22);
-                    return linkage.seconds[part];
+                    return size;
                 case BELT:
                 case SHAFT:
                     return beltMass();
@@ -1656,7 +1645,7 @@ public final class LinkageCurves {
         }
 
         int loss() {
-            switch (linkage.kinds[part]) {
+            switch (kind) {
                 case GROUND:
                     begin(31);
                     return mass() + lentLoss();
