@@ -1,3 +1,6 @@
+import java.util.ArrayList;
+import java.util.Collections;
+import java.util.List;
 import java.util.Random;
 
 /** Random runs of calls, each answer held against the Model's; the seeds are fixed. */
@@ -93,6 +96,7 @@ public final class RunsTest {
             b.append(i < grounds || i > grounds && random.nextInt(12) == 0 ? "ground " : "joint ").append(name(i))
                 .append(" ").append(xs[i]).append(" ").append(ys[i]).append(";");
         }
+        List<String> told = new ArrayList<>();
         boolean loose = random.nextInt(3) == 0;
         for (int i = 1; i < joints; i++) {
             for (int k = loose ? random.nextInt(3) : Math.min(i, 2); k > 0; k--) {
@@ -100,11 +104,15 @@ public final class RunsTest {
                 boolean isOnePlace = xs[i] == xs[other] && ys[i] == ys[other];
                 if (!bars[i][other] && (!isOnePlace || random.nextInt(50) == 0)) {
                     bars[i][other] = true;
-                    b.append(random.nextBoolean() ? "bar " : "chain ").append(name(i)).append(" ").append(name(other))
-                        .append(random.nextInt(6) == 0 ? "\n;" : ";");
+                    told.add((random.nextBoolean() ? "bar " : "chain ") + name(i) + " " + name(other)
+                        + (random.nextInt(6) == 0 ? "\n;" : ";"));
                 }
             }
         }
+        if (random.nextBoolean()) {
+            Collections.shuffle(told, random);
+        }
+        b.append(String.join("", told));
         if (random.nextInt(8) == 0 && joints > 4) {
             b.append("frame ").append(name(1)).append(" ").append(name(3)).append(" ").append(name(4)).append(";");
         }

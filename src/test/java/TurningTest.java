@@ -83,6 +83,9 @@ public final class TurningTest {
             CHECK.due("loose told " + what, x.told(what), what == 0 ? 0 : NONE);
         }
         CHECK.due("loose curve", x.curve(17, 1), NONE);
+        x = Check.desk("ground a 0 0;ground b 9 0;joint c 0 5;joint d 9 5;bar d b;bar a c;bar c d;drive c about a;");
+        CHECK.due("by the first bar of all", x.order(0, 1), 1);
+        CHECK.due("then by the last one", x.order(0, 2), 2);
     }
 
     private static void sides() {
