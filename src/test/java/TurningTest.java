@@ -162,6 +162,13 @@ public final class TurningTest {
             CHECK.due("curve " + step + " y as at", x.curve(step, 1), x.at(3, 1));
         }
         CHECK.due("so many", placed, count);
+        // Stretched at STEP 0, out of reach at the one ahead of it, 255.
+        x = Check.desk("ground a 0 0;ground b -40 0;joint c 0 10;joint d -20 5;chain a c d b;drive c about a;");
+        CHECK.holds("stretched: some", x.trace(3) > 1);
+        CHECK.due("stretched: at 0", x.curve(0, 0), -20480);
+        CHECK.due("stretched: at 255", x.curve(255, 0), NONE);
+        CHECK.holds("stretched: at 1", x.curve(1, 0) != NONE);
+        CHECK.due("stretched: begins at 0", x.told(0), 1);
     }
 
     private static void states() {
