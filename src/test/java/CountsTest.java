@@ -22,14 +22,14 @@ public final class CountsTest {
     }
 
     private static void square() {
-        LinkageCurves x = Check.desk("joint a 0 0;joint b 9 0;joint c 9 9;joint d 0 9;frame a b c d;bar a c;bar b d;");
+        Desk x = Desk.of("joint a 0 0;joint b 9 0;joint c 9 9;joint d 0 9;frame a b c d;bar a c;bar b d;");
         for (int bar = 0; bar < 5; bar++) {
             CHECK.due("square: needed " + bar, x.needed(bar), 1);
         }
         CHECK.due("square: the second diagonal", x.needed(5), 0);
         CHECK.due("square: mobility", x.mobility(), 0);
         CHECK.due("square: clusters", x.count(7), 1);
-        x = Check.desk("joint a 0 0;joint b 9 0;joint c 9 9;joint d 0 9;frame a b c d;");
+        x = Desk.of("joint a 0 0;joint b 9 0;joint c 9 9;joint d 0 9;frame a b c d;");
         CHECK.due("open square: mobility", x.mobility(), 1);
         CHECK.due("open square: together 0 2", x.together(0, 2), 0);
         CHECK.due("open square: together 1 0", x.together(1, 0), 1);
@@ -38,7 +38,7 @@ public final class CountsTest {
     }
 
     private static void grounds() {
-        LinkageCurves x = Check.desk("ground a 0 0;joint p 5 5;ground b 9 0;ground c 9 9;ground d 0 9;bar a b;bar c d;"
+        Desk x = Desk.of("ground a 0 0;joint p 5 5;ground b 9 0;ground c 9 9;ground d 0 9;bar a b;bar c d;"
             + "bar p a;bar p b;bar p c;");
         CHECK.due("grounds: ties", x.count(6), 5);
         CHECK.due("grounds: a bar along a tie", x.needed(0), 0);
@@ -54,7 +54,7 @@ public final class CountsTest {
             for (int i = 0; i < n; i++) {
                 text.append("ground ").append((char) ('a' + i)).append(" 0 ").append(i).append(';');
             }
-            x = Check.desk(text.toString());
+            x = Desk.of(text.toString());
             CHECK.due("ties of " + n, x.count(6), n < 2 ? 0 : 2 * n - 3);
             CHECK.due("mobility of " + n, x.mobility(), 0);
         }
@@ -62,7 +62,7 @@ public final class CountsTest {
 
     /** Two triangles that share a JOINT: each holds together, both do not. */
     private static void twoPlates() {
-        LinkageCurves x = Check.desk("joint a 0 0;joint b 4 0;joint c 0 4;joint d 9 9;joint e 9 5;frame c a b;bar d e;"
+        Desk x = Desk.of("joint a 0 0;joint b 4 0;joint c 0 4;joint d 9 9;joint e 9 5;frame c a b;bar d e;"
             + "chain e c d;");
         CHECK.due("plates: mobility", x.mobility(), 1);
         CHECK.due("plates: together a c", x.together(0, 2), 1);
@@ -76,7 +76,7 @@ public final class CountsTest {
 
     /** Three with three others: all nine BARS are NEEDED, though no triangle is among them. */
     private static void sixJoints() {
-        LinkageCurves x = Check.desk("joint a 0 0;joint b 3 0;joint c 8 0;joint u 1 1;joint v 4 1;joint w 6 1;"
+        Desk x = Desk.of("joint a 0 0;joint b 3 0;joint c 8 0;joint u 1 1;joint v 4 1;joint w 6 1;"
             + "chain a u b v c w a v;chain b w;bar c u;");
         for (int bar = 0; bar < 9; bar++) {
             CHECK.due("six: needed " + bar, x.needed(bar), 1);
@@ -88,15 +88,15 @@ public final class CountsTest {
     }
 
     private static void few() {
-        CHECK.due("one joint: mobility", Check.desk("joint a 0 0;").mobility(), 0);
-        LinkageCurves x = Check.desk("joint a 0 0;joint b 1 0;");
+        CHECK.due("one joint: mobility", Desk.of("joint a 0 0;").mobility(), 0);
+        Desk x = Desk.of("joint a 0 0;joint b 1 0;");
         CHECK.due("two joints: mobility", x.mobility(), 1);
         CHECK.due("two joints: together", x.together(0, 1), 0);
         CHECK.due("with itself", x.together(1, 1), 1);
     }
 
     private static void bad() {
-        LinkageCurves x = Check.desk("joint a 0 0;joint b 1 0;bar a b;");
+        Desk x = Desk.of("joint a 0 0;joint b 1 0;bar a b;");
         for (int n : new int[] {-1, 2, Integer.MIN_VALUE, Integer.MAX_VALUE}) {
             CHECK.due("needed " + n, x.needed(n), BAD);
             CHECK.due("cluster " + n, x.cluster(n), BAD);
@@ -153,7 +153,7 @@ public final class CountsTest {
                 text.append("bar ").append((char) ('a' + a)).append(' ').append((char) ('a' + b)).append(';');
             }
         }
-        LinkageCurves x = Check.desk(text.toString());
+        Desk x = Desk.of(text.toString());
         List<int[]> needed = new ArrayList<>();
         for (int[] tie : Model.ties(grounds)) {
             take(needed, tie[0], tie[1], joints);
@@ -173,7 +173,7 @@ public final class CountsTest {
         byClusters(x, bars, together, text.toString());
     }
 
-    private static void byClusters(LinkageCurves x, List<int[]> bars, boolean[][] together, String text) {
+    private static void byClusters(Desk x, List<int[]> bars, boolean[][] together, String text) {
         int clusters = 0;
         for (int i = 0; i < bars.size(); i++) {
             int least = 0;

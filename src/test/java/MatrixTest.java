@@ -23,7 +23,7 @@ public final class MatrixTest {
     }
 
     private static void ranks(String what, String text, int rank, int motions, int stresses) {
-        LinkageCurves x = Check.desk(text);
+        Desk x = Desk.of(text);
         CHECK.due(what + ": rank", x.rank(0), rank);
         CHECK.due(what + ": motions", x.rank(1), motions);
         CHECK.due(what + ": stresses", x.rank(2), stresses);
@@ -31,7 +31,7 @@ public final class MatrixTest {
 
     /** The row -3 -4 3 4 leads in column 0: 1, 4/3, -1, -4/3. */
     private static void oneBar() {
-        LinkageCurves x = Check.desk("joint a 0 0;joint b 3 4;bar a b;");
+        Desk x = Desk.of("joint a 0 0;joint b 3 4;bar a b;");
         long third = 666669;
         long[][] due = {{Math.floorMod(-4 * third, P), 1, 0, 0}, {1, 0, 1, 0}, {Math.floorMod(4 * third, P), 0, 0, 1}};
         for (int k = 0; k < 3; k++) {
@@ -43,7 +43,7 @@ public final class MatrixTest {
 
     /** GROUND stands still; columns are those of the other JOINTS alone. */
     private static void crank() {
-        LinkageCurves x = Check.desk("joint p 9 9;ground a 0 0;joint c 5 0;bar a c;");
+        Desk x = Desk.of("joint p 9 9;ground a 0 0;joint c 5 0;bar a c;");
         CHECK.due("crank: motions", x.rank(1), 3);
         long[][] due = {{1, 0, 0, 0, 0, 0}, {0, 1, 0, 0, 0, 0}, {0, 0, 0, 0, 0, 1}};
         for (int k = 0; k < 3; k++) {
@@ -54,40 +54,35 @@ public final class MatrixTest {
     }
 
     private static void motionsHold() {
-        LinkageCurves x = Check.desk("ground a -977 31;joint b 419 -800;joint c 1000 1000;ground d -1000 999;joint e 3 -7;"
+        int[][] places = {{-977, 31}, {419, -800}, {1000, 1000}, {-1000, 999}, {3, -7}, {11, 640}};
+        int[][] bars = {{0, 1}, {1, 2}, {2, 3}, {3, 4}, {4, 5}, {4, 1}};
+        Desk x = Desk.of("ground a -977 31;joint b 419 -800;joint c 1000 1000;ground d -1000 999;joint e 3 -7;"
             + "joint f 11 640;chain a b c d e f;bar e b;");
-        CHECK.due("seven bars: motions", x.rank(1), 8 - x.rank(0));
-        for (int k = 0; k < x.rank(1); k++) {
+        int motions = x.rank(1);
+        CHECK.due("six bars: motions", motions, 8 - x.rank(0));
+        for (int k = 0; k < motions; k++) {
             long all = 0;
-            for (int part = 0; part < x.count(5); part++) {
-                if (x.part(part, 0) == 2) {
-                    CHECK.due("motion " + k + " at bar part " + part, along(x, k, x.part(part, 2), x.part(part, 3)), 0);
-                }
+            for (int[] bar : bars) {
+                CHECK.due("motion " + k + " at bar " + bar[0] + " " + bar[1], along(x, k, bar, places), 0);
             }
-            for (int joint = 0; joint < x.count(0); joint++) {
+            for (int joint = 0; joint < places.length; joint++) {
                 all += x.motion(k, joint, 0) + x.motion(k, joint, 1);
             }
             CHECK.holds("motion " + k + " moves", all > 0);
         }
     }
 
-    private static long along(LinkageCurves x, int k, int a, int b) {
-        int[] parts = new int[x.count(0)];
-        for (int i = 0; i < x.count(5); i++) {
-            if (x.part(i, 0) < 2) {
-                parts[x.part(i, 1)] = i;
-            }
-        }
+    private static long along(Desk x, int k, int[] bar, int[][] places) {
         long sum = 0;
         for (int axis = 0; axis < 2; axis++) {
-            long apart = x.part(parts[a], 2 + axis) - x.part(parts[b], 2 + axis);
-            sum += apart * (x.motion(k, a, axis) - x.motion(k, b, axis));
+            long apart = places[bar[0]][axis] - places[bar[1]][axis];
+            sum += apart * (x.motion(k, bar[0], axis) - x.motion(k, bar[1], axis));
         }
         return Math.floorMod(sum, P);
     }
 
     private static void bad() {
-        LinkageCurves x = Check.desk("ground a 0 0;joint b 3 4;bar a b;");
+        Desk x = Desk.of("ground a 0 0;joint b 3 4;bar a b;");
         for (int n : new int[] {-1, 3, Integer.MIN_VALUE, Integer.MAX_VALUE}) {
             CHECK.due("rank " + n, x.rank(n), BAD);
             CHECK.due("motion " + n + " 0 0", x.motion(n, 0, 0), BAD);

@@ -17,7 +17,7 @@ public final class PartsTest {
     }
 
     private static void ask(int part, int what, long answer, int... trace) {
-        LinkageCurves x = Check.desk(ALL);
+        Desk x = Desk.of(ALL);
         String call = "ask " + part + " " + what;
         x.get(0, 0);
         CHECK.due(call, x.ask(part, what), answer);
@@ -49,10 +49,10 @@ public final class PartsTest {
         ask(SHAFT, 1, 6, 23, 20);
         int[][] bars = {{1, 0, 1}, {1, 1, 1}, {3, 4, 5}, {4, 4, 5}, {1000, 1000, 1414}, {6, 8, 10}, {7, 7, 9}};
         for (int[] bar : bars) {
-            LinkageCurves x = Check.desk("joint a 0 0;joint b " + bar[0] + " " + -bar[1] + ";bar b a;");
+            Desk x = Desk.of("joint a 0 0;joint b " + bar[0] + " " + -bar[1] + ";bar b a;");
             CHECK.due("mass of " + bar[0] + " " + bar[1], x.ask(2, 1), bar[2]);
         }
-        LinkageCurves x = Check.desk("joint a -1000 -1000;joint b 1000 1000;bar b a;");
+        Desk x = Desk.of("joint a -1000 -1000;joint b 1000 1000;bar b a;");
         CHECK.due("mass of the longest", x.ask(2, 1), 2828);
     }
 
@@ -67,7 +67,7 @@ public final class PartsTest {
     }
 
     private static void traces() {
-        LinkageCurves x = Check.desk(ALL);
+        Desk x = Desk.of(ALL);
         CHECK.due("no trail yet", x.trail(0), NONE);
         x.ask(SHAFT, 2);
         CHECK.due("a BAD ask", x.ask(SHAFT, 3), BAD);
@@ -91,7 +91,7 @@ public final class PartsTest {
         int[] parts = {PIN, GROUND, BAR, WHEEL, MESH, BELT, SHAFT};
         int[] numbers = {0, 1, 0, 0, 0, 1, 2};
         String[] due = {"1000000", "1100000", "0010000", "0001000", "0000100", "0000110", "0000111"};
-        LinkageCurves x = Check.desk(ALL);
+        Desk x = Desk.of(ALL);
         for (int i = 0; i < parts.length; i++) {
             for (int kind = 0; kind < 7; kind++) {
                 boolean is = due[i].charAt(kind) == '1';
@@ -105,7 +105,7 @@ public final class PartsTest {
     }
 
     private static void bad() {
-        LinkageCurves x = Check.desk(ALL);
+        Desk x = Desk.of(ALL);
         x.get(0, 0);
         for (int n : new int[] {-1, 8, Integer.MIN_VALUE, Integer.MAX_VALUE}) {
             CHECK.due("ask " + n, x.ask(n, 0), BAD);
@@ -119,6 +119,6 @@ public final class PartsTest {
         CHECK.due("as 0 7", x.as(0, 7), BAD);
         CHECK.due("ask 0 3", x.ask(0, 3), BAD);
         CHECK.due("the status stays", x.status(), 1);
-        CHECK.due("ask of nothing", new LinkageCurves().ask(0, 0), BAD);
+        CHECK.due("ask of nothing", new Desk().ask(0, 0), BAD);
     }
 }

@@ -20,7 +20,7 @@ public final class RowsTest {
     }
 
     private static void laying() {
-        LinkageCurves x = new LinkageCurves();
+        Desk x = new Desk();
         CHECK.due("lay none", x.lay(0, 0, 0), 0);
         CHECK.due("lay 300", x.lay(7, 3, 300), 300);
         CHECK.due("lay 301", x.lay(7, 3, 301), BAD);
@@ -46,7 +46,7 @@ public final class RowsTest {
     }
 
     private static void dropping() {
-        LinkageCurves x = new LinkageCurves();
+        Desk x = new Desk();
         CHECK.due("drop a missing one", x.drop(3), NULL);
         CHECK.due("status", x.status(), 1);
         x.lay(3, 1, 17);
@@ -62,7 +62,7 @@ public final class RowsTest {
     }
 
     private static void lanes() {
-        LinkageCurves x = new LinkageCurves();
+        Desk x = new Desk();
         long[] values = {0, 127, 128, -129, 255, 32768, -32769, 0x80000000L, -0x80000001L, Long.MIN_VALUE, Long.MAX_VALUE,
             0x123456789abcdef0L};
         for (int lane = 0; lane < 4; lane++) {
@@ -76,7 +76,7 @@ public final class RowsTest {
     }
 
     private static void places() {
-        LinkageCurves x = new LinkageCurves();
+        Desk x = new Desk();
         CHECK.due("put into none", x.put(0, 0, 1), NULL);
         CHECK.due("get of none", x.get(0, -1), NULL);
         x.lay(0, 3, 4);
@@ -95,8 +95,8 @@ public final class RowsTest {
         CHECK.due("status", x.status(), 0);
     }
 
-    private static LinkageCurves numbered() {
-        LinkageCurves x = new LinkageCurves();
+    private static Desk numbered() {
+        Desk x = new Desk();
         x.lay(0, 2, 6);
         x.lay(1, 2, 4);
         x.lay(2, 3, 6);
@@ -106,14 +106,14 @@ public final class RowsTest {
         return x;
     }
 
-    private static void row(LinkageCurves x, String what, int row, long... due) {
+    private static void row(Desk x, String what, int row, long... due) {
         for (int i = 0; i < due.length; i++) {
             CHECK.due(what + ": item " + i, x.get(row, i), due[i]);
         }
     }
 
     private static void moving() {
-        LinkageCurves x = numbered();
+        Desk x = numbered();
         CHECK.due("move", x.move(0, 1, 1, 2, 2), 2);
         row(x, "move", 1, 0, 0, 11, 12);
         CHECK.due("move up in one row", x.move(0, 0, 0, 1, 5), 5);
@@ -126,7 +126,7 @@ public final class RowsTest {
     }
 
     private static void movingRefused() {
-        LinkageCurves x = numbered();
+        Desk x = numbered();
         int[][] due = {{0, -1, 1, 0, 1}, {0, 0, 1, -1, 1}, {0, 0, 1, 0, -1}, {0, 5, 1, 0, 2}, {0, 0, 1, 3, 2}, {0, 7, 1, 0, 0},
             {0, 0, 1, 5, 0}, {0, Integer.MAX_VALUE, 1, 0, 1}, {0, 0, 1, Integer.MAX_VALUE, Integer.MAX_VALUE},
             {0, 1, 1, 1, Integer.MAX_VALUE}, {0, Integer.MIN_VALUE, 1, 0, Integer.MIN_VALUE}, {0, 0, 0, 1, 6}};
@@ -150,7 +150,7 @@ public final class RowsTest {
     }
 
     private static void keeping() {
-        LinkageCurves x = Check.desk("ground a 0 0;ground b 30 0;joint c 10 0;joint d 20 5;chain a c d b;drive c about a;");
+        Desk x = Desk.of("ground a 0 0;ground b 30 0;joint c 10 0;joint d 20 5;chain a c d b;drive c about a;");
         x.lay(0, 3, 300);
         x.lay(1, 1, 256);
         x.lay(2, 0, 0);
@@ -164,8 +164,11 @@ public final class RowsTest {
         CHECK.due("keep y", x.keep(1, 1), 256);
         CHECK.due("keep none", x.keep(2, 0), 0);
         for (int i = 0; i < 256; i++) {
-            CHECK.due("x " + i, x.get(0, i), x.curve(i, 0) == NONE ? 0 : x.curve(i, 0));
-            CHECK.due("y " + i, x.get(1, i), x.curve(i, 1) == NONE ? 0 : (short) x.curve(i, 1));
+            Desk y = x.again();
+            long atX = y.curve(i, 0);
+            long atY = y.curve(i, 1);
+            CHECK.due("x " + i, y.get(0, i), atX == NONE ? 0 : atX);
+            CHECK.due("y " + i, y.get(1, i), atY == NONE ? 0 : (short) atY);
         }
         CHECK.due("128 is not placed", x.curve(128, 0), NONE);
         CHECK.due("beyond the curve", x.get(0, 256), 77);
@@ -183,7 +186,7 @@ public final class RowsTest {
     }
 
     private static void counting() {
-        LinkageCurves x = Check.desk("ground a 0 0;joint b 5 0;ground c 9 9;ground e 1 8;chain a b c;wheel u at a 5;"
+        Desk x = Desk.of("ground a 0 0;joint b 5 0;ground c 9 9;ground e 1 8;chain a b c;wheel u at a 5;"
             + "wheel v at b 6;wheel w at b 6;wheel z at c 9;mesh u v;belt v w;shaft w z;belt u z;belt z u;drive b about c;");
         x.lay(2, 0, 0);
         x.lay(6, 3, 4);
@@ -200,7 +203,7 @@ public final class RowsTest {
     }
 
     private static void statuses() {
-        LinkageCurves x = Check.desk("ground g 0 0;");
+        Desk x = Desk.of("ground g 0 0;");
         CHECK.due("at first", x.status(), 0);
         x.ask(0, 2);
         CHECK.due("NOUGHT", x.status(), 5);
@@ -246,14 +249,14 @@ public final class RowsTest {
     }
 
     private static void digests() {
-        LinkageCurves x = new LinkageCurves();
+        Desk x = new Desk();
         CHECK.due("nothing", x.digest(), 14499147636497L);
         x.lay(1, 0, 0);
         CHECK.due("an empty row of bytes", x.digest(), mix(17, 0, 1, 0, 0, 0, 0, 0, 0));
         x.lay(1, 3, 2);
         x.put(1, 1, -5);
         CHECK.due("a row of longs", x.digest(), mix(17, 0, 4, 0, -5, 0, 0, 0, 0, 0, 0));
-        Check.read(x, "joint p -3 4;ground g 6 7;bar p g;wheel u at p 12;wheel v at g 9;mesh v u;");
+        x.read("joint p -3 4;ground g 6 7;bar p g;wheel u at p 12;wheel v at g 9;mesh v u;");
         CHECK.due("parts ahead", x.digest(), mix(17, 0, -3, 4, 1, 6, 7, 2, 0, 1, 3, 0, 12, 3, 1, 9, 4, 1, 0,
             0, 4, 0, -5, 0, 0, 0, 0, 0, 0));
         x.drop(1);

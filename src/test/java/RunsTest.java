@@ -5,11 +5,11 @@ import java.util.Random;
 
 /** Random runs of calls, each answer held against the Model's; the seeds are fixed. */
 public final class RunsTest {
-    private static final int RUNS = 1500, CALLS = 512;
+    private static final int RUNS = 1500;
     private static final String[] WORDS = {"ground", "joint", "bar", "chain", "frame", "wheel", "at", "mesh", "belt",
         "shaft", "drive", "about"};
     private final Random random;
-    private final LinkageCurves x = new LinkageCurves();
+    private final Desk x = new Desk();
     private final Model model = new Model();
     private String text = "";
     private int fed;
@@ -30,10 +30,11 @@ public final class RunsTest {
     }
 
     private int go() {
-        for (int i = 0; i < CALLS; i++) {
+        // No turn of this loop makes more than three calls.
+        for (int i = 0; x.callsLeft() >= 3; i++) {
             if (fed < text.length()) {
                 int n = Math.min(random.nextInt(9) == 0 ? 1 + random.nextInt(8) : 8, text.length() - fed);
-                long bytes = Check.packed(text.substring(fed, fed + n));
+                long bytes = Desk.packed(text.substring(fed, fed + n));
                 fed += n;
                 due("feed " + n, x.feed(n, bytes), model.feed(n, bytes));
                 if (fed == text.length()) {
@@ -172,7 +173,7 @@ public final class RunsTest {
     }
 
     private int member(int what) {
-        return about(Math.max(0, x.count(what) - 1));
+        return about((int) Math.max(0, model.count(what) - 1));
     }
 
     private void call() {
@@ -202,7 +203,7 @@ public final class RunsTest {
             case 5: due("mobility", x.mobility(), model.mobility()); break;
             case 6: what = about(2); due("rank " + what, x.rank(what), model.rank(what)); break;
             case 7: case 8:
-                int k = about(Math.max(0, x.rank(1) - 1));
+                int k = about((int) Math.max(0, model.rank(1) - 1));
                 int axis = about(1);
                 due("motion " + k + " " + a + " " + axis, x.motion(k, a, axis), model.motion(k, a, axis));
                 break;

@@ -23,21 +23,21 @@ public final class TextTest {
 
     /** What a text behind others answers, and the place where its FAULT is. */
     private static void fault(String before, String text, int number, int place) {
-        LinkageCurves x = new LinkageCurves();
-        CHECK.due("read of '" + text + "'", Check.read(x, before + text), -10 - number);
+        Desk x = new Desk();
+        CHECK.due("read of '" + text + "'", x.read(before + text), -10 - number);
         CHECK.due("place in '" + text + "'", x.place(), before.length() + place);
         CHECK.due("the tape behind '" + text + "'", x.count(8), 0);
     }
 
     private static void fine(String text, int parts) {
-        LinkageCurves x = new LinkageCurves();
-        CHECK.due("read of '" + text + "'", Check.read(x, text), parts);
+        Desk x = new Desk();
+        CHECK.due("read of '" + text + "'", x.read(text), parts);
         CHECK.due("place in '" + text + "'", x.place(), NONE);
         CHECK.due("parts of '" + text + "'", x.count(5), parts);
     }
 
     private static void newObject() {
-        LinkageCurves x = new LinkageCurves();
+        Desk x = new Desk();
         for (int i = 0; i < 10; i++) {
             CHECK.due("new: count " + i, x.count(i), 0);
         }
@@ -56,7 +56,7 @@ public final class TextTest {
     }
 
     private static void feeding() {
-        LinkageCurves x = new LinkageCurves();
+        Desk x = new Desk();
         for (int n : new int[] {0, 9, -1, Integer.MIN_VALUE, Integer.MAX_VALUE}) {
             CHECK.due("feed " + n, x.feed(n, 0x2020202020202020L), BAD);
         }
@@ -99,7 +99,7 @@ public final class TextTest {
         fault("", "joint \u00e1 0 0;", 1, 6);
         fault("", "joint a +1 0;", 1, 8);
         fault("", "\u0000", 1, 0);
-        LinkageCurves x = Check.desk("joint a1-2;joint b-0 0007;");
+        Desk x = Desk.of("joint a1-2;joint b-0 0007;");
         CHECK.due("a1-2: x", x.part(0, 2), 1);
         CHECK.due("a1-2: y", x.part(0, 3), -2);
         CHECK.due("-0", x.part(1, 2), 0);
@@ -248,17 +248,17 @@ public final class TextTest {
         fault(bars, "drive b about b;", 8, 14);
         fault(bars, "drive b about a;drive b about a;", 8, 30);
         fault(JOINTS, "drive b about a;bar a b;", 8, 14);
-        LinkageCurves x = Check.desk(bars + "drive b about a;");
+        Desk x = Desk.of(bars + "drive b about a;");
         CHECK.due("driven", x.count(10), 1);
         CHECK.due("about", x.count(11), 0);
     }
 
     private static void faultKeepsLinkage() {
-        LinkageCurves x = Check.desk("ground a 0 0;joint b 5 0;bar a b;drive b about a;");
+        Desk x = Desk.of("ground a 0 0;joint b 5 0;bar a b;drive b about a;");
         CHECK.due("pose", x.pose(0), 2);
         CHECK.due("trace", x.trace(1), 256);
         long before = x.digest();
-        CHECK.due("a text with a FAULT", Check.read(x, "joint z 0 0;joint z 0 0;"), -13);
+        CHECK.due("a text with a FAULT", x.read("joint z 0 0;joint z 0 0;"), -13);
         CHECK.due("its place", x.place(), 18);
         CHECK.due("the linkage stays", x.digest(), before);
         CHECK.due("the pose stays", x.at(1, 0), 5120);
@@ -272,11 +272,11 @@ public final class TextTest {
 
     private static void readForgets() {
         String text = "ground a 0 0;ground b 40 0;joint c 0 10;joint d 40 30;chain a c d b;drive c about a;";
-        LinkageCurves x = Check.desk(text);
+        Desk x = Desk.of(text);
         CHECK.due("flip", x.flip(3), -1);
         CHECK.due("pose", x.pose(0), 4);
         CHECK.due("trace", x.trace(3), 256);
-        CHECK.due("read again", Check.read(x, text), 7);
+        CHECK.due("read again", x.read(text), 7);
         CHECK.due("no pose", x.at(0, 0), LinkageCurves.STATE);
         CHECK.due("no why", x.why(0), LinkageCurves.STATE);
         CHECK.due("no curve", x.curve(0, 0), LinkageCurves.STATE);
@@ -285,7 +285,7 @@ public final class TextTest {
     }
 
     private static void parts() {
-        LinkageCurves x = Check.desk("joint a -3 4;ground b 5 6;joint c 7 8;frame a b c;wheel u at c 12;wheel v at a 9;"
+        Desk x = Desk.of("joint a -3 4;ground b 5 6;joint c 7 8;frame a b c;wheel u at c 12;wheel v at a 9;"
             + "mesh u v;belt v u;shaft u v;joint d 1 2;bar d a;");
         int[][] due = {{0, 0, -3, 4}, {1, 1, 5, 6}, {0, 2, 7, 8}, {2, 0, 0, 1}, {2, 1, 1, 2}, {2, 2, 2, 0}, {3, 0, 2, 12},
             {3, 1, 0, 9}, {4, 0, 0, 1}, {5, 1, 1, 0}, {6, 2, 0, 1}, {0, 3, 1, 2}, {2, 3, 3, 0}};

@@ -21,13 +21,13 @@ public final class TurningTest {
         CHECK.end();
     }
 
-    private static void place(LinkageCurves x, String what, int joint, long atX, long atY) {
+    private static void place(Desk x, String what, int joint, long atX, long atY) {
         CHECK.due(what + ": x of " + joint, x.at(joint, 0), atX);
         CHECK.due(what + ": y of " + joint, x.at(joint, 1), atY);
     }
 
     private static void crankAlone() {
-        LinkageCurves x = Check.desk("joint b 7 -3;ground a 2 -5;bar b a;drive b about a;");
+        Desk x = Desk.of("joint b 7 -3;ground a 2 -5;bar b a;drive b about a;");
         CHECK.due("crank: pose 0", x.pose(0), 2);
         place(x, "crank 0", 1, 2048, -5120);
         place(x, "crank 0", 0, 7168, -3072);
@@ -46,7 +46,7 @@ public final class TurningTest {
     }
 
     private static void fourBars() {
-        LinkageCurves x = Check.desk(FOUR);
+        Desk x = Desk.of(FOUR);
         CHECK.due("four: pose 0", x.pose(0), 4);
         place(x, "four 0", 3, 40959, 30720);
         CHECK.due("four: pose 64", x.pose(64), 4);
@@ -63,7 +63,7 @@ public final class TurningTest {
 
     /** The least number that can comes each time; A and B by the numbers of BARS. */
     private static void order() {
-        LinkageCurves x = Check.desk("joint p 9 9;joint q 3 8;joint c 0 5;ground a 0 0;ground b 9 0;joint r 4 4;joint l 1 1;"
+        Desk x = Desk.of("joint p 9 9;joint q 3 8;joint c 0 5;ground a 0 0;ground b 9 0;joint r 4 4;joint l 1 1;"
             + "bar a c;bar p q;bar b p;bar c q;bar q b;bar r b;bar r q;bar p r;bar l a;drive c about a;");
         int[][] due = {{1, 2, 4}, {0, 1, 4}, {5, 4, 1}};
         for (int k = 0; k < 3; k++) {
@@ -83,7 +83,7 @@ public final class TurningTest {
             CHECK.due("loose told " + what, x.told(what), what == 0 ? 0 : NONE);
         }
         CHECK.due("loose curve", x.curve(17, 1), NONE);
-        x = Check.desk("ground a 0 0;ground b 9 0;joint c 0 5;joint d 9 5;bar d b;bar a c;bar c d;drive c about a;");
+        x = Desk.of("ground a 0 0;ground b 9 0;joint c 0 5;joint d 9 5;bar d b;bar a c;bar c d;drive c about a;");
         CHECK.due("by the first bar of all", x.order(0, 1), 1);
         CHECK.due("then by the last one", x.order(0, 2), 2);
     }
@@ -91,10 +91,10 @@ public final class TurningTest {
     private static void sides() {
         String frame = "ground a 0 0;joint c 10 0;ground b 20 0;";
         String bars = "bar a c;bar d c;bar d b;drive c about a;";
-        CHECK.due("above is 1, so -1", Check.desk(frame + "joint d 15 3;" + bars).flip(3), -1);
-        CHECK.due("below is -1, so 1", Check.desk(frame + "joint d 15 -3;" + bars).flip(3), 1);
-        CHECK.due("between is 1, so -1", Check.desk(frame + "joint d 14 0;" + bars).flip(3), -1);
-        LinkageCurves x = Check.desk(frame + "joint d 15 -3;" + bars);
+        CHECK.due("above is 1, so -1", Desk.of(frame + "joint d 15 3;" + bars).flip(3), -1);
+        CHECK.due("below is -1, so 1", Desk.of(frame + "joint d 15 -3;" + bars).flip(3), 1);
+        CHECK.due("between is 1, so -1", Desk.of(frame + "joint d 14 0;" + bars).flip(3), -1);
+        Desk x = Desk.of(frame + "joint d 15 -3;" + bars);
         CHECK.due("pose", x.pose(0), 4);
         // At the told places again but for what DOWN takes away.
         CHECK.holds("it is below", Math.abs(x.at(3, 1) + 3072) <= 2 && Math.abs(x.at(3, 0) - 15360) <= 2);
@@ -102,7 +102,7 @@ public final class TurningTest {
 
     private static void reasons() {
         // c turns about a; d can not reach both c and b all the time; e hangs on d, f on e.
-        LinkageCurves x = Check.desk("ground a 0 0;ground b 30 0;joint c 10 0;joint d 20 5;joint e 20 15;joint f 5 20;"
+        Desk x = Desk.of("ground a 0 0;ground b 30 0;joint c 10 0;joint d 20 5;joint e 20 15;joint f 5 20;"
             + "chain a c d b;bar e d;bar e b;bar f e;bar f a;drive c about a;");
         CHECK.due("near: pose", x.pose(0), 6);
         CHECK.due("far: pose", x.pose(128), 3);
@@ -113,20 +113,20 @@ public final class TurningTest {
         }
         CHECK.due("far: at 3 x", x.at(3, 0), NONE);
         // c comes to b's place; circles of one size meet there, but D is below 2^20 from near on.
-        x = Check.desk("ground a 0 0;ground b 0 10;joint c 10 0;joint d 10 10;chain a c d b;drive c about a;");
+        x = Desk.of("ground a 0 0;ground b 0 10;joint c 10 0;joint d 10 10;chain a c d b;drive c about a;");
         CHECK.due("onto b: pose 55", x.pose(55), 4);
         CHECK.due("onto b: pose 63", x.pose(63), 3);
         CHECK.due("onto b: why", x.why(3), 2);
         CHECK.due("onto b: pose 64", x.pose(64), 3);
         CHECK.due("onto b: why", x.why(3), 2);
         // 1 apart is D = 2^20 to the point.
-        x = Check.desk("ground a 0 0;ground b 0 11;joint c 0 10;joint d 5 10;bar a c;bar d b;bar d c;drive c about a;");
+        x = Desk.of("ground a 0 0;ground b 0 11;joint c 0 10;joint d 5 10;bar a c;bar d b;bar d c;drive c about a;");
         CHECK.due("1 apart: pose", x.pose(0), 4);
         place(x, "1 apart", 3, 5120, 10240);
     }
 
     private static void curves() {
-        LinkageCurves x = Check.desk(FOUR);
+        Desk x = Desk.of(FOUR);
         CHECK.due("pose", x.pose(64), 4);
         CHECK.due("trace", x.trace(3), 256);
         CHECK.due("the pose stays", x.at(3, 0), 26623);
@@ -150,20 +150,22 @@ public final class TurningTest {
         for (int what = 0; what < 5; what++) {
             CHECK.due("driven: told " + what, x.told(what), due[what]);
         }
-        x = Check.desk("ground a 0 0;ground b 30 0;joint c 10 0;joint d 20 5;chain a c d b;drive c about a;");
+        x = Desk.of("ground a 0 0;ground b 30 0;joint c 10 0;joint d 20 5;chain a c d b;drive c about a;");
         int placed = x.trace(3);
         CHECK.holds("at some steps", placed > 0 && placed < 256);
         CHECK.due("it comes back once", x.told(0), 1);
         int count = 0;
         for (int step = 0; step < 256; step++) {
-            count += x.curve(step, 0) == NONE ? 0 : 1;
-            CHECK.due("curve " + step + " as pose", x.pose(step), x.curve(step, 0) == NONE ? 3 : 4);
-            CHECK.due("curve " + step + " x as at", x.curve(step, 0), x.at(3, 0));
-            CHECK.due("curve " + step + " y as at", x.curve(step, 1), x.at(3, 1));
+            Desk y = x.again();
+            long atX = y.curve(step, 0);
+            count += atX == NONE ? 0 : 1;
+            CHECK.due("curve " + step + " as pose", y.pose(step), atX == NONE ? 3 : 4);
+            CHECK.due("curve " + step + " x as at", y.at(3, 0), atX);
+            CHECK.due("curve " + step + " y as at", y.at(3, 1), y.curve(step, 1));
         }
         CHECK.due("so many", placed, count);
         // Stretched at STEP 0, out of reach at the one ahead of it, 255.
-        x = Check.desk("ground a 0 0;ground b -40 0;joint c 0 10;joint d -20 5;chain a c d b;drive c about a;");
+        x = Desk.of("ground a 0 0;ground b -40 0;joint c 0 10;joint d -20 5;chain a c d b;drive c about a;");
         CHECK.holds("stretched: some", x.trace(3) > 1);
         CHECK.due("stretched: at 0", x.curve(0, 0), -20480);
         CHECK.due("stretched: at 255", x.curve(255, 0), NONE);
@@ -172,7 +174,7 @@ public final class TurningTest {
     }
 
     private static void states() {
-        LinkageCurves x = Check.desk("ground a 0 0;joint b 5 0;bar a b;");
+        Desk x = Desk.of("ground a 0 0;joint b 5 0;bar a b;");
         CHECK.due("none driven: pose", x.pose(0), STATE);
         CHECK.due("none driven: at", x.at(0, 0), STATE);
         CHECK.due("none driven: why", x.why(0), STATE);
@@ -181,7 +183,7 @@ public final class TurningTest {
         CHECK.due("none driven: trace", x.trace(1), STATE);
         CHECK.due("none driven: curve", x.curve(0, 0), STATE);
         CHECK.due("none driven: told", x.told(0), STATE);
-        x = Check.desk(FOUR);
+        x = Desk.of(FOUR);
         CHECK.due("no pose: at", x.at(0, 0), STATE);
         CHECK.due("no pose: why", x.why(0), STATE);
         CHECK.due("no curve: curve", x.curve(0, 0), STATE);
@@ -194,7 +196,7 @@ public final class TurningTest {
 
     private static void bad() {
         for (String text : new String[] {"", FOUR}) {
-            LinkageCurves x = Check.desk(text);
+            Desk x = Desk.of(text);
             for (int n : new int[] {-1, 256, Integer.MIN_VALUE, Integer.MAX_VALUE}) {
                 CHECK.due("pose " + n, x.pose(n), BAD);
                 CHECK.due("at " + n, x.at(n, 0), BAD);
@@ -237,7 +239,7 @@ public final class TurningTest {
     }
 
     private static void unfolding() {
-        LinkageCurves x = Check.desk(strip());
+        Desk x = Desk.of(strip());
         for (int joint = 3; joint < 23; joint += 2) {
             x.flip(joint);
         }
@@ -249,27 +251,28 @@ public final class TurningTest {
     }
 
     private static void againstModel(String what, String text, String flips) {
-        LinkageCurves x = Check.desk(text);
+        Desk x = Desk.of(text);
         Model model = new Model();
         for (char c : text.toCharArray()) {
             model.feed(1, c);
         }
         model.read();
-        for (int joint = 2; joint < x.count(0) && !flips.isEmpty(); joint++) {
+        int joints = x.count(0);
+        for (int joint = 2; joint < joints && !flips.isEmpty(); joint++) {
             if (flips.equals("all") || joint % 2 == 1) {
                 CHECK.due(what + ": flip " + joint, x.flip(joint), model.flip(joint));
             }
         }
         for (int step = 0; step < 256; step += 5) {
-            CHECK.due(what + ": pose " + step, x.pose(step), model.pose(step));
-            for (int joint = 0; joint < x.count(0); joint++) {
-                CHECK.due(what + ": x " + step + " " + joint, x.at(joint, 0), model.at(joint, 0));
-                CHECK.due(what + ": y " + step + " " + joint, x.at(joint, 1), model.at(joint, 1));
-                CHECK.due(what + ": why " + step + " " + joint, x.why(joint), model.why(joint));
+            Desk y = x.again();
+            CHECK.due(what + ": pose " + step, y.pose(step), model.pose(step));
+            for (int joint = 0; joint < joints; joint++) {
+                CHECK.due(what + ": x " + step + " " + joint, y.at(joint, 0), model.at(joint, 0));
+                CHECK.due(what + ": y " + step + " " + joint, y.at(joint, 1), model.at(joint, 1));
+                CHECK.due(what + ": why " + step + " " + joint, y.why(joint), model.why(joint));
             }
         }
-        int last = x.count(0) - 1;
-        CHECK.due(what + ": trace", x.trace(last), model.trace(last));
+        CHECK.due(what + ": trace", x.trace(joints - 1), model.trace(joints - 1));
         for (int i = 0; i < 5; i++) {
             CHECK.due(what + ": told " + i, x.told(i), model.told(i));
         }

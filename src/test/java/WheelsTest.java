@@ -16,13 +16,13 @@ public final class WheelsTest {
         CHECK.end();
     }
 
-    private static void ratio(LinkageCurves x, int a, int b, long upper, long lower) {
+    private static void ratio(Desk x, int a, int b, long upper, long lower) {
         CHECK.due("ratio " + a + " " + b + " upper", x.ratio(a, b, 0), upper);
         CHECK.due("ratio " + a + " " + b + " lower", x.ratio(a, b, 1), lower);
     }
 
     private static void kinds() {
-        LinkageCurves x = Check.desk(JOINTS + "wheel a at i 12;wheel b at j 30;wheel c at j 8;wheel d at i 20;wheel e at i 5;"
+        Desk x = Desk.of(JOINTS + "wheel a at i 12;wheel b at j 30;wheel c at j 8;wheel d at i 20;wheel e at i 5;"
             + "mesh a b;shaft c b;belt c d;");
         ratio(x, 0, 0, 1, 1);
         ratio(x, 0, 1, -2, 5);
@@ -39,7 +39,7 @@ public final class WheelsTest {
 
     /** Two ways from a to c: that of the COUPLINGS that come first counts. */
     private static void firstCouplingReaches() {
-        LinkageCurves x = Check.desk(JOINTS + "wheel a at i 10;wheel b at j 20;wheel c at i 40;"
+        Desk x = Desk.of(JOINTS + "wheel a at i 10;wheel b at j 20;wheel c at i 40;"
             + "shaft b c;mesh a b;belt c a;");
         ratio(x, 0, 1, -1, 2);
         ratio(x, 0, 2, -1, 2);
@@ -65,7 +65,7 @@ public final class WheelsTest {
     }
 
     private static void great() {
-        LinkageCurves x = Check.desk(pairs(8, 200) + "belt bh aa;");
+        Desk x = Desk.of(pairs(8, 200) + "belt bh aa;");
         ratio(x, 0, 1, -200, 3);
         ratio(x, 0, 9, -320000000000L, 243);
         ratio(x, 0, 10, -320000000000L, 243);
@@ -88,45 +88,45 @@ public final class WheelsTest {
         for (int i = 1; i < 12; i++) {
             b.append(i % 2 == 1 ? "mesh w" : "shaft w").append((char) ('a' + i)).append(" w").append((char) ('a' + i - 1)).append(';');
         }
-        LinkageCurves x = Check.desk(b + "shaft wl wm;belt wn wm;");
+        Desk x = Desk.of(b + "shaft wl wm;belt wn wm;");
         ratio(x, 0, 11, 1000000000000L, 729);
         ratio(x, 0, 12, 1000000000000L, 729);
         ratio(x, 0, 13, 500000000000L, 729);
         ratio(x, 11, 0, 729, 1000000000000L);
         ratio(x, 0, 14, NONE, NONE);
         // 10^12 6 / 3 is above: GREAT, and so is what it reaches, though less again.
-        x = Check.desk(b + "shaft wl wn;belt wn wm;mesh wm wp;");
+        x = Desk.of(b + "shaft wl wn;belt wn wm;mesh wm wp;");
         ratio(x, 0, 13, 1000000000000L, 729);
         ratio(x, 0, 12, 0, 0);
         ratio(x, 0, 15, 0, 0);
         ratio(x, 13, 12, 2, 1);
-        x = Check.desk(b + "mesh wl wm;");
+        x = Desk.of(b + "mesh wl wm;");
         ratio(x, 0, 12, -1000000000000L, 729);
     }
 
     private static void locks() {
         String three = JOINTS + "joint k 5 5;wheel a at i 10;wheel b at j 20;wheel c at k 40;";
-        CHECK.due("three in a ring lock", Check.desk(three + "mesh a b;mesh b c;mesh c a;").lock(), 2);
-        CHECK.due("with a belt they turn", Check.desk(three + "mesh a b;mesh b c;belt c a;").lock(), NONE);
-        CHECK.due("the first that fails", Check.desk(three + "mesh a b;belt b a;mesh b a;shaft a b;").lock(), 1);
-        CHECK.due("shaft of two sizes", Check.desk(three + "belt a b;shaft b a;").lock(), 1);
+        CHECK.due("three in a ring lock", Desk.of(three + "mesh a b;mesh b c;mesh c a;").lock(), 2);
+        CHECK.due("with a belt they turn", Desk.of(three + "mesh a b;mesh b c;belt c a;").lock(), NONE);
+        CHECK.due("the first that fails", Desk.of(three + "mesh a b;belt b a;mesh b a;shaft a b;").lock(), 1);
+        CHECK.due("shaft of two sizes", Desk.of(three + "belt a b;shaft b a;").lock(), 1);
         CHECK.due("shaft and belt of one size",
-            Check.desk(three + "wheel d at i 10;belt a d;shaft d a;").lock(), NONE);
-        CHECK.due("no couplings", Check.desk(three).lock(), NONE);
+            Desk.of(three + "wheel d at i 10;belt a d;shaft d a;").lock(), NONE);
+        CHECK.due("no couplings", Desk.of(three).lock(), NONE);
         CHECK.due("a coupling reached late fails, though it comes first",
-            Check.desk(three + "belt b c;mesh a b;shaft a c;").lock(), 2);
+            Desk.of(three + "belt b c;mesh a b;shaft a c;").lock(), 2);
     }
 
     /** Two trains: the first COUPLING of all that fails, not that of the least WHEEL's train. */
     private static void locksApart() {
         String four = JOINTS + "wheel a at i 10;wheel b at j 20;wheel c at i 40;wheel d at j 7;";
-        CHECK.due("train of c d first", Check.desk(four + "mesh c d;belt c d;mesh a b;belt a b;").lock(), 1);
-        CHECK.due("train of a b first", Check.desk(four + "mesh c d;mesh a b;belt a b;belt c d;").lock(), 2);
-        CHECK.due("none", Check.desk(four + "mesh c d;mesh a b;mesh b a;mesh d c;").lock(), NONE);
+        CHECK.due("train of c d first", Desk.of(four + "mesh c d;belt c d;mesh a b;belt a b;").lock(), 1);
+        CHECK.due("train of a b first", Desk.of(four + "mesh c d;mesh a b;belt a b;belt c d;").lock(), 2);
+        CHECK.due("none", Desk.of(four + "mesh c d;mesh a b;mesh b a;mesh d c;").lock(), NONE);
         // The way to the last pair is GREAT from aa on, so what fails there is not seen.
-        LinkageCurves x = Check.desk(pairs(8, 199) + "belt ah bh;");
+        Desk x = Desk.of(pairs(8, 199) + "belt ah bh;");
         CHECK.due("great: not seen", x.lock(), NONE);
-        x = Check.desk(pairs(8, 199) + "belt ah bh;belt aa ba;");
+        x = Desk.of(pairs(8, 199) + "belt ah bh;belt aa ba;");
         CHECK.due("great: one that is not", x.lock(), 16);
     }
 
@@ -138,7 +138,7 @@ public final class WheelsTest {
             {10, 4, 10, 9, 4}, {9, 9, 9, 9, 2}, {1, 10000, 10000, 10000, 3}};
         for (int[] d : due) {
             CHECK.due("fourBars " + d[0] + " " + d[1] + " " + d[2] + " " + d[3],
-                new LinkageCurves().fourBars(d[0], d[1], d[2], d[3]), d[4]);
+                new Desk().fourBars(d[0], d[1], d[2], d[3]), d[4]);
         }
         for (int a = 1; a <= 7; a++) {
             for (int b = 1; b <= 7; b++) {
@@ -146,14 +146,14 @@ public final class WheelsTest {
                     int e = 1 + c % 7;
                     int d = 1 + c / 7 % 7;
                     CHECK.due("fourBars " + a + " " + b + " " + d + " " + e,
-                        new LinkageCurves().fourBars(a, b, d, e), Model.fourBars(a, b, d, e));
+                        new Desk().fourBars(a, b, d, e), Model.fourBars(a, b, d, e));
                 }
             }
         }
     }
 
     private static void bad() {
-        LinkageCurves x = Check.desk(JOINTS + "wheel a at i 10;wheel b at j 20;mesh a b;");
+        Desk x = Desk.of(JOINTS + "wheel a at i 10;wheel b at j 20;mesh a b;");
         for (int n : new int[] {-1, 2, Integer.MIN_VALUE, Integer.MAX_VALUE}) {
             CHECK.due("ratio " + n + " 0 0", x.ratio(n, 0, 0), BAD);
             CHECK.due("ratio 0 " + n + " 0", x.ratio(0, n, 0), BAD);
