@@ -613,10 +613,12 @@ public final class LinkageCurves {
         }
 
         boolean isOfKind(int part, int kind) {
-            for (int k = kinds[part]; k != NONE; k = WIDER_KIND[k]) {
-                if (k == kind) {
+            int is = kinds[part];
+            for (int i = 0; i < KINDS && is != NONE; i++) {
+                if (is == kind) {
                     return true;
                 }
+                is = WIDER_KIND[is];
             }
             return false;
         }

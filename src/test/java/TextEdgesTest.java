@@ -1,3 +1,5 @@
+import java.util.List;
+
 /** The edges that '1 TEXTS' and promises 1 to 5 name; FAULTS have a test of their own. */
 public final class TextEdgesTest {
     private static final int NONE = LinkageCurves.NONE, BAD = LinkageCurves.BAD, STATE = LinkageCurves.STATE,
@@ -15,6 +17,7 @@ public final class TextEdgesTest {
         fullTapeIsRead();
         tapeIsEmptyThen();
         readWithoutFault();
+        readBehindOthers();
         readWithFault();
         place();
         part();
@@ -231,6 +234,36 @@ public final class TextEdgesTest {
         CHECK.due("told(0)", y.told(0), STATE);
         CHECK.due("keep(0, 0)", y.keep(0, 0), STATE);
         CHECK.due("d is at its told SIDE again", y.flip(3), Desk.of(Rich.DRIVEN).flip(3));
+    }
+
+    /** What can be seen of the LINKAGE alone: not what is of ROWS. */
+    private static List<String> linkageOf(Desk x) {
+        List<String> lines = View.of(x);
+        lines.removeIf(line -> line.startsWith("place =") || line.startsWith("trail"));
+        return lines;
+    }
+
+    private static void readBehindOthers() {
+        CHECK.on("3: 'it is the LINKAGE from now on': nothing is left of those ahead");
+        String[] texts = {Rich.DRIVEN, Rich.UNDRIVEN, "", "joint q 5 5;", "ground a 0 0;joint b 3 0;joint c 3 3;bar a b;bar c b;",
+            "joint d 7 0;joint e 9 9;ground g 0 0;ground h 1 9;ground k 5 5;bar d g;bar e g;bar e d;wheel u at d 9;wheel v at e 8;"
+            + "mesh u v;belt u v;drive d about g;"};
+        for (String ahead : texts) {
+            for (String text : texts) {
+                Desk x = new Desk();
+                x.read(Rich.DRIVEN);
+                x.pose(3);
+                x.trace(3);
+                x.read(ahead);
+                x.read(ahead);
+                x.pose(3);
+                x.trace(3);
+                x.lock();
+                x.read(text);
+                CHECK.same("behind others, of '" + text + "'", linkageOf(Desk.of(text)), linkageOf(x));
+                CHECK.due("pose()", x.pose(9), Desk.of(text).pose(9));
+            }
+        }
     }
 
     private static void readWithFault() {

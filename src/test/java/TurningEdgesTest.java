@@ -20,6 +20,7 @@ public final class TurningEdgesTest {
         nearestCentres();
         stretched();
         footDown();
+        farFoot();
         rootDown();
         placesDown();
         reasons();
@@ -78,6 +79,35 @@ public final class TurningEdgesTest {
         x = Desk.of(CRANK + "joint p 5 9;joint q 6 9;ground a 0 0;ground b 9 0;bar q a;bar q b;bar p a;bar p b;");
         CHECK.due("both can come: the lesser", x.order(0, 0), 2);
         CHECK.due("both can come: the greater", x.order(1, 0), 3);
+        x = Desk.of("joint d 4 4;ground a 0 0;ground b 9 0;bar d a;bar d b;" + CRANK);
+        CHECK.due("JOINT 0 by BAR 0: order(0, 0)", x.order(0, 0), 0);
+        CHECK.due("JOINT 0 by BAR 0: A", x.order(0, 1), 1);
+        CHECK.due("JOINT 0 by BAR 0: B", x.order(0, 2), 2);
+        CHECK.on("'Those that never come are LOOSE': the last of 24 JOINTS, by the last of 60 BARS");
+        x = Desk.of(wheelOfBars());
+        CHECK.due("BARS", x.count(2), 60);
+        CHECK.due("the 21st that HANGS", x.order(20, 0), 22);
+        CHECK.due("no more", x.order(21, 0), NONE);
+        CHECK.holds("pose()", x.pose(7) <= 23);
+        CHECK.due("the last JOINT", x.why(23), 1);
+    }
+
+    /** All others HANG on GROUND a and the DRIVEN b, and have 16 BARS more; the last one has a BAR to a alone. */
+    private static String wheelOfBars() {
+        StringBuilder b = new StringBuilder("ground a 0 0;joint b 9 0;");
+        StringBuilder bars = new StringBuilder("bar a b;drive b about a;");
+        for (int i = 2; i < 24; i++) {
+            char name = (char) ('a' + i);
+            b.append("joint ").append(name).append(" 4 ").append(i).append(';');
+            if (i < 23) {
+                bars.append("chain a ").append(name).append(" b;");
+            }
+        }
+        bars.append("chain");
+        for (int i = 2; i < 19; i++) {
+            bars.append(' ').append((char) ('a' + i));
+        }
+        return b.toString() + bars + ";bar x a;";
     }
 
     private static void orderHangs() {
@@ -124,6 +154,17 @@ public final class TurningEdgesTest {
         for (int[] d : due) {
             CHECK.due("pose(" + d[0] + ")", x.pose(d[0]), 2);
             place("STEP " + d[0], x, 1, d[1], d[2]);
+        }
+        CHECK.on("'c is 65536 (4096 - m m) / (4096 + m m), DOWN, d is 8388608 m / (4096 + m m), DOWN': at all STEPS");
+        x.trace(1);
+        for (int step = 0; step < 256; step++) {
+            Desk y = x.again();
+            long m = step % 64;
+            long c = Math.floorDiv(65536 * (4096 - m * m), 4096 + m * m);
+            long d = Math.floorDiv(8388608 * m, 4096 + m * m);
+            long[][] turned = {{c, d}, {-d, c}, {-c, -d}, {d, -c}};
+            CHECK.due("c at " + step, y.curve(step, 0), turned[step / 64][0]);
+            CHECK.due("d at " + step, y.curve(step, 1), turned[step / 64][1]);
         }
         CHECK.on("'GROUND is at 1024 x, 1024 y': at the farthest places, too");
         x = Desk.of("ground o -1000 1000;ground p 1000 -1000;joint m 1000 1000;bar m o;drive m about o;");
@@ -184,6 +225,8 @@ public final class TurningEdgesTest {
         place("W is 0", hung(2, -1), 4, -1024, 0);
         place("W is 0, between", hung(2, 1), 4, 1024, 0);
         place("W is 0, beyond B", hung(2, 4), 4, 4096, 0);
+        // Were V 1, y would be 15.
+        place("W is 0, far", hung(1000, 500), 4, 512000, 0);
     }
 
     private static void footDown() {
@@ -193,6 +236,17 @@ public final class TurningEdgesTest {
         Desk x = Desk.of(CRANK + "ground a 0 0;ground b 3 0;joint d -1 1;bar d a;bar d b;");
         x.pose(0);
         place("-1, 1 of 3", x, 4, -1025, 1023);
+    }
+
+    private static void farFoot() {
+        CHECK.on("'not placed (2), if U is below -2^28 or above 2^28': one above 2^27 is placed");
+        // No BARS are long enough for a W of 0 or more with U at 2^28; these are 161480704 and -149880832.
+        Desk x = Desk.of("ground a 999 -840;ground o 999 -843;joint m 995 -843;joint d -1000 1000;bar o m;bar d a;bar d m;drive m about o;");
+        CHECK.due("above 2^27: pose()", x.pose(192), 4);
+        place("above 2^27", x, 3, 2195133, 1662976);
+        x = Desk.of("ground a 997 855;ground o 999 856;joint m 1000 853;joint d -1000 -1000;bar o m;bar d a;bar d m;drive m about o;");
+        CHECK.due("below -2^27: pose()", x.pose(192), 4);
+        place("below -2^27", x, 3, 3362816, 2393896);
     }
 
     private static void rootDown() {
@@ -513,10 +567,25 @@ public final class TurningEdgesTest {
         x.trace(3);
         CHECK.holds("placed at 0, not at 255", x.curve(255, 0) == NONE && x.curve(0, 0) != NONE);
         CHECK.due("it begins once, at 0", x.told(0), 1);
+        // Where c, b and d are told; a point is a STEP of 254, 255, 0 and 1 at which d is not placed.
+        beginnings("-1 6", "12 4", "16 2", ".000", 1);
+        beginnings("3 19", "3 17", "7 -9", "0.00", 1);
+        beginnings("-13 1", "-16 1", "-5 1", "00.0", 2);
+        beginnings("10 20", "17 -16", "18 -20", "..00", 2);
+        beginnings("-18 6", "-11 -8", "-20 10", "00..", 2);
         // Too near, and too far, in turn.
         x = Desk.of("ground a 0 0;ground b 30 0;joint c 0 10;joint d 30 5;chain a c d b;drive c about a;");
         x.trace(3);
         CHECK.due("it begins twice", x.told(0), 2);
+    }
+
+    private static void beginnings(String c, String b, String d, String about0, int due) {
+        Desk x = Desk.of("ground a 0 0;ground b " + b + ";joint c " + c + ";joint d " + d + ";chain a c d b;drive c about a;");
+        x.trace(3);
+        for (int i = 0; i < 4; i++) {
+            CHECK.due(c + ": STEP " + (254 + i) % 256, x.curve((254 + i) % 256, 0) == NONE ? '.' : '0', about0.charAt(i));
+        }
+        CHECK.due(c + ": it begins", x.told(0), due);
     }
 
     private static void toldFirstOfSeveral() {
@@ -535,6 +604,12 @@ public final class TurningEdgesTest {
         x.trace(0);
         for (int what = 0; what < 5; what++) {
             CHECK.due("GROUND: told(" + what + ")", x.told(what), 0);
+        }
+        x = Desk.of("ground o 0 0;joint m -1 0;bar m o;drive m about o;");
+        x.trace(1);
+        int[] opposite = {0, 0, 128, 62, 192};
+        for (int what = 0; what < 5; what++) {
+            CHECK.due("opposite: told(" + what + ")", x.told(what), opposite[what]);
         }
         CHECK.on("19: 'STEP at which x is least': where it is not placed does not count");
         // All places of d lie beyond 0, 0, which an unplaced one must not stand for.

@@ -22,6 +22,7 @@ public final class WheelsEdgesTest {
         ratioBad();
         noLock();
         firstLock();
+        mostWheels();
         greatLocksNot();
         tooLong();
         longestAndShortest();
@@ -111,6 +112,10 @@ public final class WheelsEdgesTest {
         ratio("50 / 200", x, 1, 0, -1, 4);
         ratio("200 / 150", x, 0, 2, 4, 3);
         ratio("150 / 200", x, 2, 0, 3, 4);
+        Desk even = Desk.of("joint i 0 0;wheel a at i 4;wheel b at i 6;wheel c at i 9;belt a b;belt b c;");
+        ratio("4 / 6", even, 0, 1, 2, 3);
+        ratio("6 / 9", even, 1, 2, 2, 3);
+        ratio("4 / 9", even, 0, 2, 4, 9);
         CHECK.on("'above 10^12 .. in least terms': above it only ahead of that is not GREAT");
         // 9 10^12 / (729 200)
         x = Desk.of(train("belt", with(HUNDREDS, 9), with(THREES, 200)));
@@ -191,14 +196,38 @@ public final class WheelsEdgesTest {
         CHECK.due("of two", Desk.of(FOUR + "mesh a b;mesh b a;shaft a b;belt a b;").lock(), 2);
         CHECK.due("the last of 30", Desk.of(FOUR + "mesh a b;".repeat(29) + "belt a b;").lock(), 29);
         CHECK.due("of another train", Desk.of(FOUR + "mesh c d;mesh a b;shaft d c;shaft b a;").lock(), 2);
+        Desk twice = Desk.of(FOUR + "mesh a b;belt a b;");
+        CHECK.due("asked once", twice.lock(), 1);
+        CHECK.due("asked again", twice.lock(), 1);
+        ratio("asked between", twice, 2, 2, 1, 1);
+        CHECK.due("and again", twice.lock(), 1);
         CHECK.on("'to the least WHEEL that hangs together with them'");
         // From a on c is reached by the belt, the second one, so the third one fails; from b on it would be the second.
         Desk x = Desk.of(FOUR + "shaft b c;belt a c;mesh a b;");
         CHECK.due("lock()", x.lock(), 2);
+        CHECK.due("lock() again", x.lock(), 2);
         ratio("a to b", x, 0, 1, 1, 4);
         ratio("b to a", x, 1, 0, 4, 1);
         CHECK.due("one with fewer TEETH is not the least", Desk.of("joint i 0 0;joint j 1 1;joint k 2 2;wheel a at i 90;"
             + "wheel b at j 20;wheel c at k 4;mesh b c;mesh a b;mesh c a;").lock(), 2);
+    }
+
+    private static void mostWheels() {
+        CHECK.on("RATIO and LOCK with all 16 WHEELS and all 30 COUPLINGS");
+        StringBuilder b = new StringBuilder("joint i -1000 1000;");
+        for (int i = 0; i < 16; i++) {
+            b.append("wheel w").append((char) ('a' + i)).append(" at i ").append(i % 2 == 0 ? 3 : 4).append(';');
+        }
+        // Told from the far end on, so that a reaches each one by the last COUPLING that is left.
+        for (int i = 15; i > 0; i--) {
+            b.append("belt w").append((char) ('a' + i)).append(" w").append((char) ('a' + i - 1)).append(';');
+        }
+        String once = b.toString();
+        Desk x = Desk.of(once + "belt wa wb;".repeat(15));
+        ratio("the last one", x, 0, 15, 3, 4);
+        ratio("the first one", x, 15, 0, 4, 3);
+        CHECK.due("they hold", x.lock(), NONE);
+        CHECK.due("the last one does not", Desk.of(once + "belt wa wb;".repeat(14) + "shaft wo wp;").lock(), 29);
     }
 
     private static void greatLocksNot() {
