@@ -613,12 +613,12 @@ public final class LinkageCurves {
         }
 
         boolean isOfKind(int part, int kind) {
-            int is = kinds[part];
-            for (int i = 0; i < KINDS && is != NONE; i++) {
-                if (is == kind) {
+            int tried = kinds[part];
+            for (int i = 0; i < KINDS && tried != NONE; i++) {
+                if (tried == kind) {
                     return true;
                 }
-                is = WIDER_KIND[is];
+                tried = WIDER_KIND[tried];
             }
             return false;
         }
