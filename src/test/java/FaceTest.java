@@ -28,6 +28,7 @@ public final class FaceTest {
         constants();
         inside();
         words(Files.readString(SOURCE));
+        lengths(Files.readAllLines(SOURCE));
         CHECK.end();
     }
 
@@ -72,6 +73,7 @@ public final class FaceTest {
         List<String> due = Arrays.asList(CONSTANTS);
         for (Field f : LinkageCurves.class.getDeclaredFields()) {
             CHECK.holds(f.getName(), Modifier.isPrivate(f.getModifiers()) || due.contains(f.getName()));
+            CHECK.holds(f + ": static is final", !Modifier.isStatic(f.getModifiers()) || Modifier.isFinal(f.getModifiers()));
         }
     }
 
@@ -86,6 +88,22 @@ public final class FaceTest {
                 fields += Modifier.isStatic(f.getModifiers()) ? 0 : 1;
             }
             CHECK.holds(c.getName() + " has some twenty fields", fields <= 20);
+        }
+    }
+
+    /** Rule 11: methods stay short. */
+    private static void lengths(List<String> lines) {
+        int start = -1;
+        String indent = "";
+        for (int i = 0; i < lines.size(); i++) {
+            String line = lines.get(i);
+            if (line.matches(" {4,8}[A-Za-z].*\\) \\{") && !line.contains(" new ")) {
+                start = i;
+                indent = line.substring(0, line.length() - line.stripLeading().length());
+            } else if (start >= 0 && line.equals(indent + "}")) {
+                CHECK.holds(lines.get(start).trim() + " is short", i - start < 60);
+                start = -1;
+            }
         }
     }
 
